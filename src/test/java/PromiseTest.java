@@ -32,6 +32,7 @@ public final class PromiseTest {
         t.controlAndVetoes();
         t.how();
         t.witnessAndChain();
+        t.witnessOfEarlierRounds();
         t.above();
         t.when();
         t.fewest();
@@ -495,6 +496,52 @@ public final class PromiseTest {
         due("59 is half now", z.controls(4), 31);
     }
 
+    private void witnessOfEarlierRounds() {
+        promise = "11";
+        // Firm 3, of the same round, would do alone; only those of the round before may be taken.
+        ControlRegister x = new ControlRegister();
+        x.sellVotes(0, 9, 0, 0, 51);
+        x.sellVotes(0, 9, 0, 1, 51);
+        x.sellVotes(0, 9, 4, 3, 51);
+        x.sellVotes(0, 9, 4, 2, 26);
+        x.sellVotes(0, 9, 5, 2, 26);
+        x.sellVotes(0, 9, 7, 2, 48);
+        due("the same round", x.how(0, 3, 1), x.how(0, 2, 1));
+        due("those of the round before", x.how(0, 2, 3), 3);
+        // The like with firm 0: it is got later, and so it is of no witness.
+        ControlRegister y = new ControlRegister();
+        y.sellVotes(0, 9, 1, 3, 51);
+        y.sellVotes(0, 9, 1, 4, 51);
+        y.sellVotes(0, 9, 7, 2, 26);
+        y.sellVotes(0, 9, 8, 2, 26);
+        y.sellVotes(0, 9, 4, 2, 48);
+        y.sellVotes(0, 9, 6, 0, 51);
+        due("firm 0 is the last", y.how(1, 0, 1), 3);
+        due("two of round 1", y.how(1, 2, 3), 24);
+        due("the chain", y.how(1, 0, 4), 28);
+        // Of witnesses of two the least as a number, whatever its votes.
+        ControlRegister z = new ControlRegister();
+        z.rule(1, 99);
+        for (int firm = 0; firm < 4; firm++) {
+            z.sellVotes(0, 9, 2, firm, 51);
+        }
+        z.sellVotes(0, 9, 4, 4, 5);
+        z.sellVotes(0, 9, 5, 4, 15);
+        z.sellVotes(0, 9, 6, 4, 36);
+        z.sellVotes(0, 9, 7, 4, 44);
+        due("51 of 1 and 2", z.how(2, 4, 3), 6);
+        z.sellVotes(0, 4, 5, 4, 5);
+        z.sellVotes(0, 7, 4, 4, 40);
+        due("40 and 20 of 0 and 1", z.how(2, 4, 3), 3);
+        // A middle link of the number 0 leads on.
+        ControlRegister v = new ControlRegister();
+        v.sellVotes(0, 9, 3, 1, 51);
+        v.sellVotes(0, 9, 5, 0, 51);
+        v.sellVotes(0, 9, 4, 2, 51);
+        due("through firm 0", v.how(3, 2, 4), 3);
+        due("by firm 0", v.how(3, 2, 3), 1);
+    }
+
     private void above() {
         promise = "12";
         ControlRegister x = new ControlRegister();
@@ -589,6 +636,20 @@ public final class PromiseTest {
         z.sellVotes(0, 9, 0, 1, 10);
         z.sellVotes(0, 9, 4, 1, 60);
         due("never", z.fewest(0, 1, 0), NONE);
+        // Its own votes are not for a firm to buy: one would do here.
+        ControlRegister w = new ControlRegister();
+        w.rule(1, 1);
+        due("one of another firm", w.fewest(4, 1, 1), 1);
+        due("none of itself", w.fewest(4, 0, 1), NONE);
+        // All that the rest has, and not one less.
+        w.rule(1, 30);
+        w.sellVotes(0, 9, 0, 1, 49);
+        w.sellVotes(0, 9, 1, 1, 1);
+        due("49 of the 50", w.fewest(1, 1, 1), 49);
+        w.sellVotes(0, 9, 2, 1, 2);
+        due("48 and 1 are like 49", w.fewest(1, 1, 1), NONE);
+        w.sellVotes(0, 2, 1, 1, 1);
+        due("48 and 2 are all", w.fewest(1, 1, 1), 48);
         // Selling the last one of few.
         ControlRegister v = new ControlRegister();
         v.rule(1, 1);
@@ -733,6 +794,12 @@ public final class PromiseTest {
         due("one further", x.nobody(3, 0), 33);
         due("one further", x.nobody(3, 1), 470);
         due("the other firms are locked", x.count(8), 3);
+        for (int person = 0; person < 4; person++) {
+            x.sellShares(0, 9, person, 4, 10 + person);
+        }
+        x.sellShares(0, 9, 5, 4, 14);
+        due("what persons and the rest have is not nobody's", x.nobody(4, 0), 7);
+        due("what persons and the rest have is not nobody's", x.nobody(4, 1), 50);
         for (int bad : NO_FIRMS) {
             due("firm", x.nobody(bad, 2), UNKNOWN);
         }
@@ -783,6 +850,10 @@ public final class PromiseTest {
         due("96 of 26", x.owners(1), 0);
         x.rule(2, 24);
         due("is more than 24", x.owners(1), 2);
+        x.sellShares(1, 9, 0, 2, 30);
+        x.sellShares(1, 9, 2, 2, 30);
+        x.sellShares(1, 9, 3, 2, 40);
+        due("three of one firm", x.owners(2), 1 + 4 + 8);
         for (int bad : NO_FIRMS) {
             due("firm", x.owners(bad), UNKNOWN);
         }
@@ -868,6 +939,8 @@ public final class PromiseTest {
         due("back to nothing", y.restore(0), 1);
         due("no control", y.controls(0), 0);
         due("no events", y.count(7), 0);
+        y.image(1);
+        due("the images are two", y.restore(0), 1);
         due("no deal", y.told(0, 0), UNKNOWN);
     }
 
@@ -888,6 +961,9 @@ public final class PromiseTest {
             due("count(" + (10 + i) + ")", x.count(10 + i), days[i]);
         }
         due("last", x.count(49), NONE);
+        x.veto(999, 1, 0, 0);
+        due("two of the last day are of one day", x.count(14), NONE);
+        x.cancel(5);
         due("rounds", x.count(6), 0);
         due("events", x.count(7), 0);
         for (int bad : new int[] {-1, 50, Integer.MIN_VALUE, Integer.MAX_VALUE}) {
@@ -903,6 +979,14 @@ public final class PromiseTest {
         due("all three", x.count(8), 7);
         x.sellShares(9, 9, 5, 3, 100);
         due("one held by these alone is of it", x.count(8), 15);
+        // Each one is held by the next, and the last one by the rest: none is locked.
+        ControlRegister y = new ControlRegister();
+        for (int firm = 0; firm < 4; firm++) {
+            y.sellShares(0, 9, 5 + firm, firm, 100);
+        }
+        due("a line", y.count(8), 0);
+        y.sellShares(0, 9, 7, 4, 100);
+        due("closed at its end", y.count(8), 31);
     }
 
     private static String picture(ControlRegister x) {
