@@ -164,6 +164,28 @@ public final class RandomRunsTest {
         }
     }
 
+    /** Many FIRMS under x have small parts of the others: only several together make a FIRM fall. */
+    private void wideWitnesses() {
+        int[] order = someOrderOfFirms();
+        int x = random.nextInt(4);
+        int under = 2 + random.nextInt(3);
+        int deemed = 40 + random.nextInt(30);
+        due(text("rule", 1, deemed), real.rule(1, deemed), model.rule(1, deemed));
+        for (int k = 0; k < under; k++) {
+            sell(1, day(), 9, x, order[k], 51 + random.nextInt(5));
+        }
+        for (int k = under; k < 5; k++) {
+            for (int part = 0; part < k; part++) {
+                sell(1, day(), 9, 4 + order[part], order[k], 60 / k + random.nextInt(5));
+            }
+            sell(1, day(), 9, (x + 1) % 4, order[k], 15 + random.nextInt(20));
+            if (oneIn(3)) {
+                int[] a = {day(), 4 + order[random.nextInt(under)], order[k], 1};
+                due(text("veto", a), real.veto(a[0], a[1], a[2], a[3]), model.veto(a[0], a[1], a[2], a[3]));
+            }
+        }
+    }
+
     /** All SHARES of some FIRMS go to these FIRMS themselves, and parts of the others, too. */
     private void lockedShares() {
         int[] order = someOrderOfFirms();
@@ -190,8 +212,9 @@ public final class RandomRunsTest {
     }
 
     private void begin() {
-        switch (random.nextInt(6)) {
+        switch (random.nextInt(7)) {
             case 0: chainOfVotes(); break;
+            case 4: wideWitnesses(); break;
             case 1: lockedShares(); break;
             case 2: webOfShares(); break;
             case 3:
