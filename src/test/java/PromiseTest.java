@@ -44,7 +44,6 @@ public final class PromiseTest {
         t.circle();
         t.images();
         t.count();
-        t.refusalsChangeNothing();
         t.check.end();
     }
 
@@ -987,60 +986,5 @@ public final class PromiseTest {
         due("a line", y.count(8), 0);
         y.sellShares(0, 9, 7, 4, 100);
         due("closed at its end", y.count(8), 31);
-    }
-
-    private static String picture(ControlRegister x) {
-        StringBuilder s = new StringBuilder();
-        for (int what = 0; what < 50; what++) {
-            s.append(x.count(what)).append(' ');
-        }
-        for (int deal = 0; deal < x.count(0); deal++) {
-            for (int what = 0; what < 8; what++) {
-                s.append(x.told(deal, what)).append(' ');
-            }
-        }
-        for (int firm = 0; firm < 5; firm++) {
-            for (int holder = 0; holder < 10; holder++) {
-                s.append(x.holds(holder, firm, 0)).append(' ').append(x.holds(holder, firm, 1)).append(' ');
-                s.append(x.controls(holder)).append(' ');
-            }
-        }
-        return s.toString();
-    }
-
-    private void refusalsChangeNothing() {
-        promise = "all (refused)";
-        ControlRegister x = new ControlRegister();
-        x.sellVotes(3, 9, 0, 0, 60);
-        x.sellVotes(3, 0, 1, 0, 60);
-        x.sellShares(1, 9, 4, 1, 60);
-        x.image(0);
-        x.look(3);
-        String before = picture(x);
-        x.sellVotes(2, 9, 2, 0, 50);
-        x.sellShares(0, 9, 2, 1, 50);
-        x.sellShares(0, 9, 9, 1, 50);
-        x.sellShares(0, 9, 12, 1, 50);
-        x.veto(0, 0, 0, 2);
-        x.cancel(0);
-        x.cancel(7);
-        x.look(1000);
-        x.rule(0, 100);
-        x.rule(3, 1);
-        x.image(2);
-        x.restore(1);
-        x.restore(2);
-        x.fewest(0, 0, 0);
-        x.fewest(0, 1, 1);
-        x.when(0, 0, 1);
-        check.isTrue("what is refused, or asks only, changes nothing", before.equals(picture(x)));
-        for (int i = x.count(0); i < 40; i++) {
-            x.veto(i, 0, 0, 1);
-        }
-        before = picture(x);
-        x.veto(0, 0, 0, 1);
-        x.sellVotes(2, 9, 2, 0, 40);
-        x.sellVotes(2, 9, 2, 0, 41);
-        check.isTrue("FULL changes nothing", before.equals(picture(x)));
     }
 }

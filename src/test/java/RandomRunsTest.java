@@ -2,7 +2,8 @@ import java.util.Random;
 
 /**
  * Long runs of calls, by fixed seeds, on the class and on ReferenceRegister at once: each answer of
- * the one must be the other's. All arguments are drawn beyond their edges now and then.
+ * the one must be the other's. All arguments are drawn beyond their edges now and then. An object is asked far more
+ * here than the 512 calls that the document grants it: the class does not count them, and more is found so.
  */
 public final class RandomRunsTest {
     private static final int RUNS = 300;
