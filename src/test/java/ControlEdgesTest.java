@@ -89,7 +89,7 @@ public final class ControlEdgesTest {
                 if (other == x) {
                     continue;
                 }
-                Run r = sentence("Terms 2 (b): greater than the VOTES of each other PERSON and FIRM, " + x + " and " + other);
+                Run r = sentence("Terms 2 (b): greater than those of each PERSON and FIRM, " + x + " and " + other);
                 r.gives(1, "sellVotes", 0, REST, x, 4, 40);
                 r.gives(16, "controls", x);
                 r.gives(2, "sellVotes", 0, REST, other, 4, 39);

@@ -15,9 +15,10 @@ public final class DealEdgesTest {
         t.newObject();
         t.atFirstTheRestHoldsAll();
         for (int kind = SHARES; kind <= VOTES; kind++) {
-            t.sell(kind, kind == SHARES ? "sellShares" : "sellVotes");
-            t.sound(kind, kind == SHARES ? "sellShares" : "sellVotes");
-            t.full(kind, kind == SHARES ? "sellShares" : "sellVotes");
+            String call = kind == SHARES ? "sellShares" : "sellVotes";
+            t.sell(kind, call);
+            t.sound(kind, call);
+            t.full(call);
         }
         t.sharesAndVotesAreApart();
         t.veto();
@@ -215,11 +216,11 @@ public final class DealEdgesTest {
 
     private void sound(int kind, String call) {
         givesToTheLast(kind, call);
-        restGivesToTheLast(kind, call);
+        restGivesToTheLast(call);
         notBeforeItHas(kind, call);
-        notWhatGoesLater(kind, call);
+        notWhatGoesLater(call);
         ofOneDayByRisingNumbers(kind, call);
-        whicheverDayIsLookedAt(kind, call);
+        whicheverDayIsLookedAt(call);
         fromEachHolderItsOwn(kind, call);
     }
 
@@ -237,7 +238,7 @@ public final class DealEdgesTest {
         r.gives(40, "holds", 1, 0, kind);
     }
 
-    private void restGivesToTheLast(int kind, String call) {
+    private void restGivesToTheLast(String call) {
         Run r = sentence(call + ": NO: the REST, too, has no more than it has");
         r.gives(1, call, 0, REST, 0, 3, 99);
         r.keeps(NO, call, 0, REST, 1, 3, 2);
@@ -264,7 +265,7 @@ public final class DealEdgesTest {
         r.gives(1, "holds", 1, 0, kind);
     }
 
-    private void notWhatGoesLater(int kind, String call) {
+    private void notWhatGoesLater(String call) {
         Run r = sentence(call + ": NO: a DEAL done later would take more than is left");
         r.gives(1, call, 10, REST, 0, 0, 60);
         r.keeps(NO, call, 9, REST, 1, 0, 41);
@@ -305,7 +306,7 @@ public final class DealEdgesTest {
         r.gives(0, "told", 1, 6);
     }
 
-    private void whicheverDayIsLookedAt(int kind, String call) {
+    private void whicheverDayIsLookedAt(String call) {
         for (int looked : new int[] {0, 500, 999}) {
             Run r = sentence(call + ": NO, whichever DAY is looked at");
             r.gives(0, "look", looked);
@@ -335,7 +336,7 @@ public final class DealEdgesTest {
         r.gives(50, "holds", 0, 0, kind);
     }
 
-    private void full(int kind, String call) {
+    private void full(String call) {
         Run r = sentence(call + ": FULL: up to 40 DEALS");
         for (int deal = 0; deal < 40; deal++) {
             r.gives(deal + 1, call, 40 - deal, REST, deal % 4, deal % 5, 1);

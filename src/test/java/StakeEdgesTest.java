@@ -77,7 +77,8 @@ public final class StakeEdgesTest {
             }
             givesStake(r, REST, firm, 1, 1);
         }
-        int[][] want = {{1, 1, 100}, {2, 1, 50}, {25, 1, 4}, {30, 3, 10}, {50, 1, 2}, {98, 49, 50}, {99, 99, 100}, {100, 1, 1}};
+        int[][] want = {{1, 1, 100}, {2, 1, 50}, {25, 1, 4}, {30, 3, 10}, {50, 1, 2}, {98, 49, 50},
+            {99, 99, 100}, {100, 1, 1}};
         for (int[] row : want) {
             r = sentence("16: " + row[0] + " SHARES, by 100, in lowest terms");
             r.gives(1, "sellShares", 0, REST, 3, 4, row[0]);
